@@ -193,12 +193,11 @@ public final class RankedEchoes {
         if (row.left[i] == 1 || j != -1 && row.left[j] == 1) {
             return NO;
         }
-        if (j != -1) {
-            return row.isHidden(j, i) ? 1 : 0;
-        }
+        alarms.settle(row);
         int hidden = 0;
-        for (int other = 0; other < row.size; other++) {
-            if (other != i && row.isHidden(other, i)) {
+        for (int other = 0; other < row.size && other < MOST_CELLS; other++) {
+            boolean asked = other != i && (j == -1 || j == other);
+            if (asked && alarms.bunchOf[other] == NONE && row.alarmsWithout(other, i)) {
                 hidden++;
             }
         }
@@ -696,10 +695,6 @@ public final class RankedEchoes {
 
         boolean alarmsWithout(int i, int without) {
             return outdoes(i, floorOf(i, without), look[A]);
-        }
-
-        boolean isHidden(int i, int by) {
-            return !alarmsWithout(i, NONE) && alarmsWithout(i, by);
         }
     }
 

@@ -155,22 +155,14 @@ public final class PromisesTest {
         faultIs("dice 17,0;", 0);
         faultIs("dice 16,1;", 0);
         faultIs("dice 99,99;", 0);
-        faultIs(cells(48), NONE);
-        faultIs(cells(49), 0);
-        faultIs(cells(48) + "mode less;" + "look 1,1,1,1,1;", NONE);
-        faultIs(cells(47) + "cell 1;", NONE);
-        faultIs(cells(47) + "cell 1,2;", 99);
-        faultIs(cells(24) + cells(24), NONE);
-        faultIs(cells(24) + cells(24) + "cell 9;", 106);
-        faultIs(cells(24) + "mode less;" + cells(25), 63);
-    }
-
-    private static String cells(int n) {
-        StringBuilder text = new StringBuilder("cell 5");
-        for (int k = 1; k < n; k++) {
-            text.append(",").append(k % 10);
-        }
-        return text.append(";").toString();
+        faultIs(Due.cells(48), NONE);
+        faultIs(Due.cells(49), 0);
+        faultIs(Due.cells(48) + "mode less;" + "look 1,1,1,1,1;", NONE);
+        faultIs(Due.cells(47) + "cell 1;", NONE);
+        faultIs(Due.cells(47) + "cell 1,2;", 99);
+        faultIs(Due.cells(24) + Due.cells(24), NONE);
+        faultIs(Due.cells(24) + Due.cells(24) + "cell 9;", 106);
+        faultIs(Due.cells(24) + "mode less;" + Due.cells(25), 63);
     }
 
     private static void lay() {

@@ -19,6 +19,7 @@ public final class ChangeEdgesTest {
         behindLaid();
         whatIsNoChange();
         alarmsBehindChanges();
+        whateverIsAskedFirst();
         manyCalls();
         Due.end();
     }
@@ -192,7 +193,7 @@ public final class ChangeEdgesTest {
         Due.sentence("UNDONE is the latest change");
         RankedEchoes x = Due.laid("cell 3,1,4,1,5,40,6,2;look 3,0,2,2,3;");
         x.leave(2, 1);
-        for (int kind = 0; kind < 12; kind++) {
+        for (int kind = 0; kind < 13; kind++) {
             String before = told(x);
             Due.is("a change", change(x, kind) >= 0 ? 1 : 0, 1);
             Due.holds("it is told, kind " + kind, !told(x).equals(before));
@@ -214,6 +215,7 @@ public final class ChangeEdgesTest {
             case 8 -> x.look(3, 40);
             case 9 -> x.look(4, 40);
             case 10 -> x.mode(2);
+            case 12 -> x.slide(99);
             default -> x.slide(0);
         };
     }
@@ -406,6 +408,56 @@ public final class ChangeEdgesTest {
         Due.is("alarms", x.count(7), 1);
         Due.is("bunch", x.cell(1, 6), 0);
         Due.is("no bunch", x.cell(0, 6), NONE);
+    }
+
+    /** Lays what stands on a new object that is drawn at once, so that nothing is left there of what stood before. */
+    private static RankedEchoes laidAnew(RankedEchoes x) {
+        StringBuilder text = new StringBuilder("cell ").append(Due.powers(x)).append(";look ");
+        for (int what = 1; what <= 5; what++) {
+            text.append(what == 1 ? "" : ",").append(x.count(what));
+        }
+        text.append(";mode ").append(new String[] {"both", "more", "less"}[x.count(6)]).append(";");
+        RankedEchoes y = Due.laid(text.toString());
+        for (int i = 0; i < x.count(0); i++) {
+            y.leave(i, x.cell(i, 1));
+        }
+        Due.drawing(y);
+        return y;
+    }
+
+    private static int ask(RankedEchoes x, int question) {
+        return switch (question) {
+            case 0 -> x.count(7);
+            case 1 -> x.count(8);
+            case 2 -> x.bunch(-1, 0);
+            case 3 -> x.bunch(0, 0);
+            case 4 -> x.bunch(0, 1);
+            case 5 -> x.bunch(0, 2);
+            case 6 -> x.enough(0);
+            case 7 -> x.enough(1);
+            case 8, 9, 10, 11, 12, 13, 14, 15 -> x.cell(question - 8, 6);
+            case 16, 17, 18, 19, 20, 21, 22, 23 -> x.cell(question - 16, 4);
+            case 24, 25, 26, 27, 28, 29, 30, 31 -> x.hides(question - 24, -1);
+            default -> x.drawn(question - 32);
+        };
+    }
+
+    private static void whateverIsAskedFirst() {
+        Due.sentence("ALARMS, BUNCHES, HIDES, ENOUGH are those of the row as it stands, whatever is asked first");
+        for (int kind = 0; kind < 13; kind++) {
+            for (int question = 0; question < 45; question++) {
+                RankedEchoes x = Due.written("cell 3,1,4,1,5,40,6,2;look 3,0,2,2,3;");
+                Due.is("at first, question " + question, ask(x, question), ask(laidAnew(x), question));
+                x.lay();
+                Due.is("laid, question " + question, ask(x, question), ask(laidAnew(x), question));
+                x.leave(2, 1);
+                ask(x, question);
+                change(x, kind);
+                Due.is("kind " + kind + ", question " + question, ask(x, question), ask(laidAnew(x), question));
+                x.undo();
+                Due.is("kind " + kind + " undone, question " + question, ask(x, question), ask(laidAnew(x), question));
+            }
+        }
     }
 
     private static void manyCalls() {

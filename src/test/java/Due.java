@@ -58,6 +58,7 @@ final class Due {
         endSentence();
         String of = sentences > 0 ? " of " + sentences + " sentences" : "";
         System.out.println(wrong == 0 ? "all " + looked + " answers" + of + " are as due" : wrong + " answers are not as due");
+        sentences = 0;
         if (wrong != 0) {
             System.exit(1);
         }

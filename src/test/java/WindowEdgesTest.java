@@ -358,6 +358,12 @@ public final class WindowEdgesTest {
         RankedEchoes edge = row("4,60,2", 1, 0, 1, 2, 1);
         edge.leave(0, 1);
         Due.is("no other window", edge.hides(1, 2), 0);
+        RankedEchoes first = row("9,60,1", 2, 0, 12, 1, 1);
+        Due.is("the first cell of all", first.hides(1, 0), 1);
+        Due.is("the first cell of all, counted", first.hides(1, -1), 1);
+        RankedEchoes last = row("1,60,9", 2, 0, 12, 1, 1);
+        Due.is("the last cell of all", last.hides(1, 2), 1);
+        Due.is("the last cell of all, counted", last.hides(1, -1), 1);
         RankedEchoes alike = row("2,4,60", 2, 0, 2, 2, 1);
         Due.is("2 * 2 is not less than 4", alike.hides(2, 1), 0);
         alike.power(1, 5);

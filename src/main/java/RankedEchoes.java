@@ -278,7 +278,7 @@ public final class RankedEchoes {
             return BAD;
         }
         alarms.settle(row);
-        if (k < row.size) {
+        if (row.has(k)) {
             return row.left[k] == 1 ? 'x' : alarms.letterOf(k);
         }
         return letterBehindCells(k - row.size);
